@@ -995,45 +995,46 @@ public final class PeriodSlots {
         boolean succeeds(Mesh mesh) {
             Arrays.fill(offsets, NONE);
             for (int v = 0; v < mesh.count; v++) {
-                if (mesh.isLowestOfNet(v) && !assigns(mesh, mesh.netOf(v), v)) {
+                if (mesh.isLowestOfNet(v) && !assigns(offsets, mesh, mesh.netOf(v), v)) {
                     return false;
                 }
             }
             return true;
         }
 
-        private boolean assigns(Mesh mesh, int net, int v) {
+        private static boolean assigns(int[] chosen, Mesh mesh, int net, int v) {
             if (!mesh.exists(v)) {
                 return true;
             }
             if (!has(net, v)) {
-                return assigns(mesh, net, v + 1);
+                return assigns(chosen, mesh, net, v + 1);
             }
-            int open = openOffsets(mesh, v);
+            int open = openOffsets(chosen, mesh, v);
             for (int offset = 0; offset < mesh.periods[v]; offset++) {
-                offsets[v] = offset;
-                if (has(open, offset) && leavesRoom(mesh, v) && assigns(mesh, net, v + 1)) {
+                chosen[v] = offset;
+                if (has(open, offset) && leavesRoom(chosen, mesh, v) && assigns(chosen, mesh, net, v + 1)) {
                     return true;
                 }
             }
-            offsets[v] = NONE;
+            // Left standing, the last try would close offsets to the stations before this one.
+            chosen[v] = NONE;
             return false;
         }
 
-        private int openOffsets(Mesh mesh, int v) {
+        private static int openOffsets(int[] chosen, Mesh mesh, int v) {
             int taken = 0;
             for (int u = 0; u < mesh.count; u++) {
-                if (u != v && has(mesh.near[v], u)) {
-                    taken |= mesh.ticksAt(u, offsets[u]);
+                if (has(mesh.near[v], u)) {
+                    taken |= mesh.ticksAt(u, chosen[u]);
                 }
             }
             return mesh.offsetsOutside(v, taken);
         }
 
         // Looking ahead ends most dead branches some stations earlier.
-        private boolean leavesRoom(Mesh mesh, int v) {
+        private static boolean leavesRoom(int[] chosen, Mesh mesh, int v) {
             for (int u = v + 1; u < mesh.count; u++) {
-                if (has(mesh.near[v], u) && openOffsets(mesh, u) == 0) {
+                if (has(mesh.near[v], u) && openOffsets(chosen, mesh, u) == 0) {
                     return false;
                 }
             }
