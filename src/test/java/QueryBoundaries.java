@@ -342,7 +342,7 @@ final class QueryBoundaries {
 
         t = Trial.of(23, "an observation says of a station and a tick that none, exactly one, or more of its neighbours"
             + " have this tick (whether the station itself has it does not matter)");
-        // Station 1 alone has tick 3 or not, and station 0 is always at the even ticks.
+        // Station 0 is at the even ticks; of its neighbours 2 and 3 both are at tick 3, then none is, one is, both are.
         t.made("S1aS3-S3dS3dL01L02L03");
         t.is("see(0, 3, 0)", 1).is("which(1)", 0).is("unsee()", 1).is("lay(2, -9)", 3).is("lay(3, -9)", 3);
         t.is("see(0, 3, 0)", 1).is("which(1)", 247).is("unsee()", 1).is("see(0, 3, 1)", 1).is("which(1)", 8);
