@@ -43,10 +43,14 @@ final class Document {
         return "Promise " + promise + ": not in the document";
     }
 
+    /** The section of a promise, or nothing if it is not in the document. */
+    static String section(int promise) {
+        return SECTIONS.getOrDefault(heading(promise), "");
+    }
+
     /** Tells if the words stand in the section of the promise, or in one that fixes words for all of them. */
     static boolean says(int promise, String words) {
-        String own = SECTIONS.getOrDefault(heading(promise), "");
-        boolean found = inOneLine(own).contains(words);
+        boolean found = inOneLine(section(promise)).contains(words);
         for (String general : List.of("What it is", "The public face", "Description")) {
             found |= inOneLine(SECTIONS.getOrDefault(general, "")).contains(words);
         }

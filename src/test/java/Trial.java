@@ -226,7 +226,8 @@ final class Trial {
         return sentence + ": " + call + " [after " + String.join("; ", calls.subList(first, calls.size())) + "]";
     }
 
-    private static long answer(Object target, String call) {
+    /** Makes the call on a PeriodSlots or a Naive, and returns its answer. */
+    static long answer(Object target, String call) {
         int open = call.indexOf('(');
         String inside = call.substring(open + 1, call.length() - 1);
         String[] words = inside.isEmpty() ? new String[0] : inside.split(", ");
